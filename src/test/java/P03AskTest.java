@@ -44,8 +44,8 @@ public final class P03AskTest {
     }
 
     private static void everyKind(Check check) {
-        FerryDeck deck = oneOfEach();
         for (int kind = 0; kind < 7; kind++) {
+            FerryDeck deck = oneOfEach();
             for (int what = 0; what < 6; what++) {
                 String call = "ask(" + kind + ", " + what + ", 3)";
                 check.due(call, deck.ask(kind, what, 3), ANSWERS[kind][what]);
