@@ -21,6 +21,7 @@ public final class E07BoardTest {
         onlyThatLane(check);
         paysInTheSeason(check);
         firstThatFits(edge);
+        refusedWhenBackAgain(edge);
         check.finish();
     }
 
@@ -394,5 +395,17 @@ public final class E07BoardTest {
             d.board(0, 0);
         };
         refused(edge, "FULL by mass ahead of NEAR", heavyAndNear, 1, 0, FULL);
+    }
+
+    /** "then nothing changes": what one paid before it came back stays told behind each refusal. */
+    private static void refusedWhenBackAgain(Edge edge) {
+        Edge.Scene back = d -> {
+            allAtOnce(d);
+            d.back(3);
+        };
+        refused(edge, "back, BAD", back, 3, 4, BAD);
+        refused(edge, "back, FULL and NEAR", back, 3, 0, FULL);
+        refused(edge, "back, NEAR", back, 3, 1, NEAR);
+        refused(edge, "back, FULL", back, 3, 2, FULL);
     }
 }

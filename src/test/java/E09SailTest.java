@@ -12,7 +12,7 @@ public final class E09SailTest {
         apartByOneLane(check, edge);
         apartByTwoLanes(check, edge);
         apartWithBothSidesLoaded(check, edge);
-        neitherPairIsApart(check);
+        lanesOfOneSideMayBeApart(check, edge);
         farApart(check, edge);
         theLaneThatNeedsMost(check);
         allOnDeckAreAbroad(check);
@@ -84,13 +84,17 @@ public final class E09SailTest {
         };
     }
 
-    private static void sails(Check check, Edge edge, int minutes, int... masses) {
-        String name = "sail() with " + Arrays.toString(masses);
+    private static void carriedAsMeant(Check check, String name, int... masses) {
         FerryDeck deck = new FerryDeck();
         carried(masses).play(deck);
         for (int lane = 0; lane < 4; lane++) {
             check.due(name + ", carried by " + lane, 200000 - deck.deck(lane, 1), masses[lane]);
         }
+    }
+
+    private static void sails(Check check, Edge edge, int minutes, int... masses) {
+        String name = "sail() with " + Arrays.toString(masses);
+        carriedAsMeant(check, name, masses);
         FerryDeck sailing = edge.allowed(name, carried(masses), d -> d.sail(), minutes);
         check.due(name + ", sailed", sailing.count(4), 1);
         check.due(name + ", on deck", sailing.count(2), 0);
@@ -98,11 +102,7 @@ public final class E09SailTest {
 
     private static void stays(Check check, Edge edge, int... masses) {
         String name = "sail() with " + Arrays.toString(masses);
-        FerryDeck deck = new FerryDeck();
-        carried(masses).play(deck);
-        for (int lane = 0; lane < 4; lane++) {
-            check.due(name + ", carried by " + lane, 200000 - deck.deck(lane, 1), masses[lane]);
-        }
+        carriedAsMeant(check, name, masses);
         edge.refused(name, carried(masses), d -> d.sail(), NO);
     }
 
@@ -142,8 +142,7 @@ public final class E09SailTest {
     }
 
     /** Only the sides are compared: lanes of one side, or across, may be further apart. */
-    private static void neitherPairIsApart(Check check) {
-        Edge edge = new Edge(check);
+    private static void lanesOfOneSideMayBeApart(Check check, Edge edge) {
         sails(check, edge, 31, 40000, 0, 40000, 0);
         sails(check, edge, 31, 40000, 0, 0, 40000);
         sails(check, edge, 31, 0, 40000, 40000, 0);

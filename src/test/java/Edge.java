@@ -10,6 +10,15 @@ final class Edge {
     static final int CAR = 0, VAN = 1, TRUCK = 2, TANKER = 3, TRAIN = 4, CAMPER = 5, COACH = 6;
     static final int LEAST = Integer.MIN_VALUE, MOST = Integer.MAX_VALUE;
 
+    /** How many vehicles busy() makes: one more number is no vehicle's. */
+    static final int BUSY_VEHICLES = 14;
+
+    /** Of those that busy() makes: two that wait, two on deck, two abroad. */
+    static final int BUSY_WAITS = 2, BUSY_BACK = 6, BUSY_FIRST = 7, BUSY_LAST = 8, BUSY_ABROAD = 0, BUSY_ABROAD_TOO = 3;
+
+    /** The longest trace there is: what busy() leaves. */
+    static final int[] BUSY_TRACE = {34, 33, 32, 31, 3, 2, 1, 13, 12, 11};
+
     /** The calls that bring a new deck to where the edge is. */
     interface Scene {
         void play(FerryDeck deck);
@@ -199,12 +208,6 @@ final class Edge {
         }
     }
 
-    /** How many vehicles busy() makes: one more number is no vehicle's. */
-    static final int BUSY_VEHICLES = 14;
-
-    /** Of those that busy() makes: two that wait, two on deck, two abroad. */
-    static final int BUSY_WAITS = 2, BUSY_BACK = 6, BUSY_FIRST = 7, BUSY_LAST = 8, BUSY_ABROAD = 0, BUSY_ABROAD_TOO = 3;
-
     /** It has sailed; some wait, one of these back again, some are on deck, some abroad; a trace is left. */
     static void busy(FerryDeck deck) {
         deck.lane(0, 2000, 200000);
@@ -231,7 +234,4 @@ final class Edge {
         deck.board(5, 2);
         deck.ask(TRAIN, 3, 3);
     }
-
-    /** The longest trace there is: what busy() leaves. */
-    static final int[] BUSY_TRACE = {34, 33, 32, 31, 3, 2, 1, 13, 12, 11};
 }
